@@ -1215,7 +1215,7 @@ public final class StoneRaised {
         /** Whose stone lies at each spot. */
         final int[] lies = new int[MAX_WALLS * WALL_SPOTS];
         final int[] height = new int[MAX_WALLS * MAX_SIDE];
-        /** Each what is told as KEPT in one number, the oldest first. */
+        /** What is told as KEPT, each in one number, the oldest first. */
         final int[] kept = new int[MAX_KEPT];
         int keptCount;
         /** Whose stones came down in this YEAR, as bits: they wait for the next one. */
@@ -1415,7 +1415,7 @@ public final class StoneRaised {
             }
         }
 
-        /** A stone that FALLS can leave its twin weaker in a WALL seen already: so from the first. */
+        /** What FALLS can leave a twin weaker in a column seen already: so again from the first. */
         private void fall() {
             int wall = 0;
             for (int n = 0; n < MAX_WALLS * (MAX_CHILDREN + 1) && wall < town.wallCount(); n++) {
@@ -1486,7 +1486,7 @@ public final class StoneRaised {
             int left = leftOf(spot);
             int right = rightOf(spot);
             int near = (left != NONE ? 1 << left : 0) | (right != NONE ? 1 << right : 0);
-            return (near & town.foes(child, ended)) == 0;
+            return near == 0 || (near & town.foes(child, ended)) == 0;
         }
 
         private boolean mayLie(int child, int spot) {
