@@ -291,6 +291,10 @@ public final class ActsTest {
         Check.due("the oldest is b", 1, x.kept(0, 1));
         Check.due("the latest fell", 0, x.kept(59, 3));
         Check.due("in year 31", 31, x.kept(59, 0));
+        for (int k = 1; k < 60; k++) {
+            Check.due("year of " + k, 2 + k / 2, x.kept(k, 0));
+            Check.due("built in or not, " + k, 1 - k % 2, x.kept(k, 3));
+        }
         Check.due("kept(60)", -1, x.kept(60, 0));
         x.undo();
         Check.due("sixty", 60, x.has(9));

@@ -232,6 +232,13 @@ public final class AheadTest {
         x.peace(0);
         Check.due("ended already", -1, x.reconcile(2, 0));
         Check.due("without", -1, x.reconcile(2, 1));
+        StoneRaised end = set(text + "feud a b;feud a c;feud a d;", 950, 3, off(9), off(9), off(9), off(9));
+        end.years(9);
+        Check.due("to year 999: d is left, beside a", 2, end.reconcile(40, 0));
+        end.years(1);
+        Check.due("beyond year 999", -1, end.reconcile(40, 0));
+        StoneRaised soon = set(text + "feud a b;feud a c;feud a d;", 950, 3, off(9), off(9), off(9), off(9));
+        Check.due("one year ahead", 0, soon.reconcile(1, 0));
         StoneRaised y = Check.with(text + "feud b c;feud a b;");
         Check.due("ending a b alone helps not: c is off v's b", -1, y.reconcile(2, 0));
     }

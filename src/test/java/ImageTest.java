@@ -112,7 +112,21 @@ public final class ImageTest {
         change("two at one place", false, 13, 0);
         change("b on nothing", false, 5, 0);
         change("b below a", true, 7, 1, 13, 0);
+        change("a on nothing", false, 7, 1, 11, 0, 13, 0);
         change("none lies", true, 5, 0, 11, 0, 13, 0);
+        change("c on b, above w", false, 17, 1, 19, 2);
+        String four = "home h talk 1 warm 1;child a of h born 0;wall p wide 4 high 4;wall q wide 4 high 4;"
+            + "wall r wide 4 high 4;wall s wide 4 high 4;";
+        StoneRaised x = Check.with(four);
+        Check.due("the fourth wall", true, Check.on(x, Check.summed(0, 50, 0, 0, 1, 4, 3, 0)));
+        Check.due("a lies there", 0, x.at(3, 3, 0));
+        Check.due("a fifth wall", false, Check.on(x, Check.summed(0, 50, 0, 0, 1, 5, 3, 0)));
+        Check.due("wall 255", false, Check.on(x, Check.summed(0, 50, 0, 0, 1, 255, 3, 0)));
+        Check.due("a fifth column", false, Check.on(x, Check.summed(0, 50, 0, 0, 1, 4, 4, 0)));
+        Check.due("a fifth course", false, Check.on(x, Check.summed(0, 50, 0, 0, 1, 1, 0, 4)));
+        Check.due("at(3, 2, 4)", -1, x.at(3, 2, 4));
+        Check.due("at(3, 4, 0)", -1, x.at(3, 4, 0));
+        Check.due("at(2, 7, 0)", -1, x.at(2, 7, 0));
         // c is born in 50 and done in 53.
         change("c lies done", true, 0, 0, 1, 53, 17, 2);
         change("c lies not done", false, 0, 0, 1, 52, 17, 2);
