@@ -557,7 +557,8 @@ public final class StoneRaised {
             next = 0;
             fault = NO_FAULT;
             place = NONE;
-            advance();
+            kind = END;
+            word = Word.OTHER;
         }
 
         /** Behind a fault the text counts as ended, so that every loop of the parser ends. */
@@ -586,19 +587,27 @@ public final class StoneRaised {
             return kind == WORD && word == Word.OTHER;
         }
 
+        /** Whether more than blanks is ahead, which are passed over. */
+        boolean goesOn() {
+            while (next < tape.size && isBlank(tape.byteAt(next))) {
+                next++;
+            }
+            return next < tape.size;
+        }
+
         void advance() {
             if (fault != NO_FAULT) {
                 return;
             }
-            while (next < tape.size && isBlank(tape.byteAt(next))) {
-                next++;
-            }
-            boolean glued = next > 0 && next < tape.size && joins(next - 1) && joins(next);
+            boolean more = goesOn();
             from = next;
             value = 0;
             word = Word.OTHER;
-            if (next >= tape.size) {
+            if (!more) {
                 kind = END;
+            } else if (joins(next - 1) && joins(next)) {
+                // A blank that lacks is a fault ahead of any 7th letter or 5th digit.
+                failHere(NO_TOWN);
             } else if (isLetter(tape.byteAt(next))) {
                 readWord();
             } else if (isDigit(tape.byteAt(next))) {
@@ -607,9 +616,6 @@ public final class StoneRaised {
                 kind = SIGN;
                 value = tape.byteAt(next);
                 next++;
-            }
-            if (glued) {
-                failHere(NO_TOWN);
             }
         }
 
@@ -887,15 +893,19 @@ public final class StoneRaised {
         }
 
         boolean hasMore() {
-            return reader.kind != Reader.END;
+            return reader.isGood() && reader.goesOn();
         }
 
-        /** Reads one STATEMENT, ahead of which there were as many as told. */
+        /**
+         * Reads one STATEMENT, ahead of which there were as many as told. The 81st one is a fault
+         * at its first byte, ahead of all that may be wrong with its first word.
+         */
         void statement(int ahead) {
             if (ahead >= MAX_STATEMENTS) {
-                reader.failHere(TOO_MANY);
+                reader.fail(TOO_MANY, reader.next);
                 return;
             }
+            reader.advance();
             switch (reader.word) {
                 case HOME: homeLine(); break;
                 case CHILD: childLine(); break;
@@ -910,7 +920,9 @@ public final class StoneRaised {
                 case BITES: draft.bites = setting(99); break;
                 default: reader.failHere(NO_TOWN);
             }
-            sign(';');
+            if (!reader.isSign(';')) {
+                reader.failHere(NO_TOWN);
+            }
         }
 
         private void homeLine() {

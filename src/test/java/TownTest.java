@@ -127,6 +127,11 @@ public final class TownTest {
         Check.due("80 statements", 80, Check.town(new StoneRaised(), eighty));
         Check.faulty(eighty + " bites 1;", 6, eighty.length() + 1);
         Check.faulty(eighty + "gains", 6, eighty.length());
+        Check.faulty(eighty + "abcdefgh", 6, eighty.length());
+        Check.faulty(eighty + "\n12345", 6, eighty.length() + 1);
+        Check.faulty(eighty + ")", 6, eighty.length());
+        Check.faulty(eighty + " \n", 0, -1);
+        Check.faulty(eighty.substring(8) + "abcdefgh", 1, eighty.length() - 2);
     }
 
     private static void noTown() {
@@ -197,6 +202,19 @@ public final class TownTest {
         Check.faulty("gains 1*talk;", 0, -1);
         Check.faulty("gains(1)min(1,2);", 1, 8);
         Check.faulty("gains 2talk", 1, 7);
+        Check.faulty("child d of h born 1ragains 1;", 3, 11);
+        Check.faulty(HOME + "child d of h born 1ragains 1;", 1, 40);
+        Check.faulty("weighs 1abcdefg", 1, 8);
+        Check.faulty("weighs 100abcdefg", 4, 7);
+        Check.faulty("weighs 12345abcdefg", 1, 11);
+        Check.faulty("weighs12345;", 1, 6);
+        Check.faulty("home h12345", 1, 6);
+        Check.faulty("home abcdef12345", 1, 11);
+        Check.faulty("home abcdefg12345", 1, 11);
+        Check.faulty("gains talk12345", 1, 10);
+        Check.faulty("gains 1+2strongly", 1, 9);
+        Check.faulty("may 1<2andabcdef", 1, 7);
+        Check.faulty("abcdef12345", 1, 0);
     }
 
     private static void names() {

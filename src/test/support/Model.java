@@ -308,6 +308,10 @@ final class Model {
             return c >= '0' && c <= '9';
         }
 
+        static boolean joins(char c) {
+            return letter(c) || digit(c);
+        }
+
         void blanks() {
             while (p < s.length() && (s.charAt(p) == ' ' || s.charAt(p) == '\n')) {
                 p++;
@@ -322,6 +326,9 @@ final class Model {
             }
             int q = p;
             char c = s.charAt(p);
+            if (p > 0 && joins(c) && joins(s.charAt(p - 1))) {
+                throw new Fault(1, p);
+            }
             if (letter(c)) {
                 while (q < s.length() && letter(s.charAt(q))) {
                     q++;
@@ -338,9 +345,6 @@ final class Model {
                 }
             } else {
                 return s.substring(p, p + 1);
-            }
-            if (p > 0 && (letter(s.charAt(p - 1)) || digit(s.charAt(p - 1)))) {
-                throw new Fault(1, p);
             }
             return s.substring(p, q);
         }
@@ -426,10 +430,8 @@ final class Model {
         }
 
         Town town() {
-            while (!sees("")) {
-                if (t.statements == 80) {
-                    throw here(6);
-                }
+            for (blanks(); p < s.length(); blanks()) {
+                atMost(t.statements, 80);
                 statement(peek());
                 must(";");
                 t.statements++;
