@@ -166,7 +166,7 @@ final class Towns {
         StringBuilder s = new StringBuilder(text());
         for (int n = 1 + below(2); n > 0 && s.length() > 0; n--) {
             int k = below(s.length());
-            switch (below(9)) {
+            switch (below(12)) {
                 case 0 -> s.deleteCharAt(k);
                 case 1 -> s.insert(k, any(List.of(" ", ";", "(", ")", "[", "a", "7", ",", "not ", "\t", "A", "\u00ff")));
                 case 2 -> s.setCharAt(k, (char) (32 + below(96)));
@@ -175,10 +175,20 @@ final class Towns {
                 case 5 -> sayAgain(s);
                 case 6 -> s.insert(k, s.substring(k, Math.min(s.length(), k + below(9))));
                 case 7 -> s.append(any(List.of("gains 1;", "may all;", "home zz talk 1 warm 1;", "weighs 7;", "twins ca cb;")));
+                case 8 -> s.insert(k, any(List.of("abcdefgh", "12345", "talk1234567", "1strongly", "not1", "999")));
+                case 9 -> s.delete(k, Math.min(s.length(), k + 1 + below(25)));
+                case 10 -> manyLines(s);
                 default -> s.insert(k, "(".repeat(1 + below(9)));
             }
         }
         return s.length() > 1600 ? s.substring(0, 1600) : s.toString();
+    }
+
+    /** As many lines as there may be, or one less or more, and something behind them. */
+    private void manyLines(StringBuilder s) {
+        s.setLength(0);
+        s.append("bites 1;".repeat(79 + below(3)));
+        s.append(maybe()).append(any(List.of("", "frost 5;", "abcdefgh", "12345", ";", "bites", "\u0000", "home1")));
     }
 
     private void swapWord(StringBuilder s, int k) {
