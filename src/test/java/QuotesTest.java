@@ -9,24 +9,24 @@ import java.util.Map;
 import java.util.regex.Matcher;
 import java.util.regex.Pattern;
 
-/** Whether the tests name every sentence of the document: its Terms and its promises 1 to 34. */
+/** Whether the tests name every sentence of the document, from its first line to its last promise. */
 public final class QuotesTest {
     private static final Pattern QUOTE = Pattern.compile(
         "Says\\.(?:promise|terms)\\(\"?(\\w+)\"?,\\s*((?:\"(?:[^\"\\\\]|\\\\.)*\"\\s*\\+?\\s*)+)\\)");
     private static final Pattern TEXT = Pattern.compile("\"((?:[^\"\\\\]|\\\\.)*)\"");
 
     public static void main(String[] args) throws IOException {
-        String doc = Files.readString(Path.of("../shared/DOC.md")).replace("```text", "").replace("```", "").replaceAll("\\s+", " ");
+        String doc = Files.readString(Path.of("../shared/DOC.md")).replaceAll("```(text|java)?", "").replaceAll("\\s+", " ");
         Map<String, List<String>> quotes = quotes();
         for (int n = 1; n <= 34; n++) {
             int from = doc.indexOf("`: ", doc.indexOf("## Promise " + n + ":")) + 3;
             named("promise " + n, doc.substring(from, doc.indexOf("##", from)), quotes.getOrDefault("" + n, List.of()));
         }
-        String[] parts = {"I. A TOWN", "II. It is YEAR", "III. AHEAD", "The constants:"};
-        for (int k = 0; k < 3; k++) {
-            String part = doc.substring(doc.indexOf(parts[k]), doc.indexOf(parts[k + 1]));
-            String key = "I".repeat(k + 1);
-            named("terms " + key, part.substring(part.indexOf(' ')), quotes.getOrDefault(key, List.of()));
+        for (String key : Says.START.keySet()) {
+            int from = doc.indexOf(Says.START.get(key));
+            String part = doc.substring(from, doc.indexOf(Says.END.get(key), from));
+            String titles = part.replaceAll("^(## (What it is|The public face|Terms)|I+\\.|The constants:) ", "");
+            named("terms " + key, titles, quotes.getOrDefault(key, List.of()));
         }
         Check.finish();
     }

@@ -2,6 +2,7 @@ import java.io.IOException;
 import java.io.UncheckedIOException;
 import java.nio.file.Files;
 import java.nio.file.Path;
+import java.util.Map;
 
 /**
  * A sentence of DOC.md that a test holds, by the number of its promise or the part of the Terms. It must
@@ -23,12 +24,16 @@ final class Says {
         return new Says("promise " + n, between("## Promise " + n + ":", "## "), sentence);
     }
 
-    /** Of the Terms' parts I, II, III. */
+    /** Of the Terms' parts I, II, III, of what stands ahead of these, or of the constants behind them. */
     static Says terms(String part, String sentence) {
-        String end = part.equals("I") ? "II. It is" : part.equals("II") ? "III. AHEAD" : "The constants:";
-        String start = part.equals("I") ? "I. A TOWN" : part.equals("II") ? "II. It is" : "III. AHEAD";
-        return new Says("terms " + part, between(start, end), sentence);
+        return new Says("terms " + part, between(START.get(part), END.get(part)), sentence);
     }
+
+    /** The parts of the document that are no promises, each with where it begins and ends. */
+    static final Map<String, String> START = Map.of("what", "## What it is", "face", "## The public face",
+        "overview", "## Terms", "I", "I. A TOWN", "II", "II. It is", "III", "III. AHEAD", "constants", "The constants:");
+    static final Map<String, String> END = Map.of("what", "## The public face", "face", "## Terms",
+        "overview", "I. A TOWN", "I", "II. It is", "II", "III. AHEAD", "III", "The constants:", "constants", "## Promise 1:");
 
     private static String between(String start, String end) {
         int from = DOC.indexOf(start);
